@@ -845,6 +845,24 @@ public final class BellRingers {
         }
 
         boolean readsAll() {
+            clear();
+            boolean stands = true;
+            for (int line = 0; line < MOST_BYTES && stands && tokens.token != END; line++) {
+                stands = switch (tokens.token) {
+                    case PERSON -> readsPerson();
+                    case BELL -> readsBell();
+                    case LOSES -> readsLoses();
+                    case WEIGHS -> readsWeighs();
+                    case FACES -> readsFaces();
+                    case DRAW -> readsDraw();
+                    default -> refuses(MISPLACED);
+                };
+                stands = stands && takes(';');
+            }
+            return stands;
+        }
+
+        private void clear() {
             draft.clear();
             weighsTold = false;
             facesTold = false;
@@ -852,24 +870,6 @@ public final class BellRingers {
             faultKind = 0;
             faultPlace = NONE;
             tokens.start();
-            for (int line = 0; line < MOST_BYTES && tokens.token != END; line++) {
-                if (!readsLine() || !takes(';')) {
-                    return false;
-                }
-            }
-            return true;
-        }
-
-        private boolean readsLine() {
-            return switch (tokens.token) {
-                case PERSON -> readsPerson();
-                case BELL -> readsBell();
-                case LOSES -> readsLoses();
-                case WEIGHS -> readsWeighs();
-                case FACES -> readsFaces();
-                case DRAW -> readsDraw();
-                default -> refuses(MISPLACED);
-            };
         }
 
         private boolean readsPerson() {
