@@ -125,6 +125,19 @@ public final class ActsTest {
         Check.same("999 at most still", x.person(0, 1), 999);
     }
 
+    /** Beyond 512 calls: not promised, but the bound of day() can be seen nowhere else. */
+    private static void lastDay() {
+        BellRingers x = Check.of("person a has 9;bell x hour 1;loses a x 1;weighs day>1000;");
+        for (int i = 0; i < 999; i++) {
+            x.day();
+        }
+        Check.same("999 days", x.about(4), 999);
+        Check.same("no day behind them", x.day(), -1);
+        Check.same("999 days still", x.about(4), 999);
+        Check.same("ahead it goes on: day 1,000", x.will(0, 2, 0), -1);
+        Check.same("ahead it goes on: day 1,001", x.will(0, 3, 0), 0);
+    }
+
     private static void wants() {
         BellRingers x = Check.of(THREE);
         Check.same("want(0, 1, 20)", x.want(0, 1, 20), 0);
@@ -141,6 +154,8 @@ public final class ActsTest {
         x.leave(1);
         Check.same("one away may want", x.want(1, 1, 8), 7);
         Check.same("four acts", x.about(6), 4);
+        x.want(0, 0, 1);
+        Check.same("a loss of 1", x.person(0, 3), 3);
     }
 
     private static void comings() {
@@ -262,6 +277,7 @@ public final class ActsTest {
         days();
         foundOut();
         mostRung();
+        lastDay();
         wants();
         comings();
         gifts();

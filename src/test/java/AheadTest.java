@@ -72,10 +72,28 @@ public final class AheadTest {
         BellRingers z = Check.of("bell w hour 0;" + turned);
         Check.same("order() of three", z.order(), 6);
         Check.lie("of three", z, 0, 2, 1);
+        hoursTellOrder(4, 3, 2, 1, 0);
+        hoursTellOrder(2, 4, 0, 3, 1);
+        hoursTellOrder(1, 0, 4, 2, 3);
         BellRingers e = Check.of("person a has 5;");
         e.list();
         Check.same("order() without bells", e.order(), 0);
         Check.lie("without bells", e);
+    }
+
+    /** A bell's hour is its place: a, who loses 1, rings it only there; elsewhere b does, who loses 20. */
+    private static void hoursTellOrder(int... hours) {
+        StringBuilder text = new StringBuilder("person a has 999;person b has 999;");
+        int[] order = new int[5];
+        for (int i = 0; i < 5; i++) {
+            char name = (char) ('v' + i);
+            text.append("bell ").append(name).append(" hour ").append(hours[i]).append(';');
+            text.append("loses a ").append(name).append(" 1;loses b ").append(name).append(" 20;");
+            order[hours[i]] = i;
+        }
+        BellRingers x = Check.of(text + "weighs (loss=1)*(rung=hour)*2+(loss=20);");
+        Check.same("order() by hours", x.order(), 5);
+        Check.lie("by hours", x, order);
     }
 
     private static void sharing() {
@@ -104,6 +122,8 @@ public final class AheadTest {
             + "loses a x 5;loses a y 5;loses b x 5;loses b y 5;weighs 0;");
         Check.same("all alike: duties(1)", z.duties(1), 10);
         Check.lie("all alike", z, 0, 1);
+        BellRingers v = Check.of("person a has 0;bell x hour 0;loses a x 1;");
+        Check.same("a loss of 1: duties(0)", v.duties(0), 1);
         // more bells go ahead of less loss
         BellRingers w = Check.of("person a has 0;person b has 0;bell x hour 0;bell y hour 0;"
             + "loses a x 1;loses a y 20;loses b x 20;");
@@ -162,6 +182,10 @@ public final class AheadTest {
         Check.same("two are needed: chorus(1)", x.chorus(1), 5);
         x.leave(2);
         Check.same("dawn alone: chorus(1)", x.chorus(1), 1);
+        x.want(0, 0, 1);
+        Check.same("a loss of 1: chorus(1)", x.chorus(1), 1);
+        x.want(0, 0, 0);
+        Check.same("no losses: chorus(0)", x.chorus(0), 0);
         x.leave(0);
         Check.same("nobody: chorus(0)", x.chorus(0), 0);
         Check.same("nobody: chorus(1)", x.chorus(1), 0);
@@ -218,6 +242,7 @@ public final class AheadTest {
         BellRingers y = Check.of("person a has 9;person b has 9;person c has 9;bell x hour 0;bell y hour 0;"
             + "loses a x 9;loses b x 5;loses b y 5;loses c y 5;");
         Check.same("both hide", y.hides(0), 6);
+        Check.same("the first one hides", Check.of(THREE + "weighs loss+has;").hides(1), 5);
     }
 
     private static void two() {
@@ -340,6 +365,7 @@ public final class AheadTest {
         BellRingers y = Check.of("person a has 9;bell x hour 0;bell y hour 0;loses a x 9;loses a y 9;");
         Check.same("one alone: law(1)", y.law(1), 1);
         Check.same("one alone: law(2)", y.law(2), 2);
+        Check.same("a loss of 1", Check.of("person a has 9;bell x hour 0;loses a x 1;weighs loss=5;").law(5), 1);
         Check.same("no new losses", Check.of(ONE + "bell y hour 0;").law(5), 1);
         y.law(3);
         Check.same("the losses stay", y.loss(0, 0), 9);

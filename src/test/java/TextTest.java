@@ -215,6 +215,7 @@ public final class TextTest {
         Check.fault("bell a hour 5;bell a hour 24;", 3, 19);
         Check.fault("person a has 5;bell a hour 5;loses a a 5;", 0, -1);
         Check.fault(TWO + "loses a b 5;loses a b 21;", 3, 49);
+        Check.fault(TWO + "loses a b 1;loses a b 1;", 3, 49);
         Check.fault("person a has 999;", 0, -1);
         Check.fault("person a has 1000;", 4, 13);
         Check.fault("person a has 0000;", 0, -1);

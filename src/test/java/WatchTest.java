@@ -73,6 +73,33 @@ public final class WatchTest {
         BellRingers z = Check.of("person a has 9;bell x hour 1;loses a x 5;");
         Check.same("nobody: ask(1, 1, 0)", z.ask(1, 1, 0), 20);
         Check.same("nobody: ask(11, 1, 0)", z.ask(11, 1, 0), 11);
+        z.seen(1, 0, 0, false);
+        Check.same("the greatest is 0", z.sure(1, 0), 0);
+        Check.same("the least is 0", z.sure(0, 0), 0);
+        Check.same("one is left", z.ask(1, 1, 0), 1);
+        BellRingers f = Check.of("person a has 9;bell x hour 1;loses a x 5;faces 100;");
+        Check.same("nobody is found out: ask(11, 1, 0)", f.ask(11, 1, 0), 11);
+    }
+
+    /** Six people, five bells: who rings the last one tells most. */
+    private static void askingMany() {
+        StringBuilder text = new StringBuilder();
+        for (int i = 0; i < 6; i++) {
+            text.append("person ").append((char) ('a' + i)).append(" has 9;");
+        }
+        for (int i = 0; i < 5; i++) {
+            text.append("bell ").append((char) ('v' + i)).append(" hour 1;");
+        }
+        text.append("loses a z 15;loses b z 16;loses c v 1;loses f z 7;weighs loss-rung*2;");
+        BellRingers x = Check.of(text.toString());
+        Check.same("ask(1, 0, 0)", x.ask(1, 0, 0), 4);
+        Check.same("ask(1, 1, 0)", x.ask(1, 1, 0), 17);
+        // b rang up to 16: then a, up to 15; from 17 on f rang, and rings again from 19 on
+        Check.same("ask(2, 1, 0)", x.ask(2, 1, 0), 16);
+        x.seen(1, 4, 5, true);
+        Check.same("fits(0)", x.fits(0), 4);
+        Check.same("ask(2, 0, 0)", x.ask(2, 0, 0), 4);
+        Check.same("ask(2, 1, 0)", x.ask(2, 1, 0), 2);
     }
 
     private static void asTold() {
@@ -207,6 +234,7 @@ public final class WatchTest {
         seeing();
         wrongSights();
         asking();
+        askingMany();
         asTold();
         times();
         images();
