@@ -177,6 +177,28 @@ public final class ActsTest {
         Check.same("acts", x.about(6), 5);
     }
 
+    /** Numbers that a shift would take for another one's. */
+    private static void farNumbers() {
+        BellRingers x = Check.of(THREE);
+        x.leave(1);
+        int[] far = {32, 33, 64, -32, -31, Integer.MIN_VALUE, Integer.MAX_VALUE};
+        for (int n : far) {
+            Check.same("leave(" + n + ")", x.leave(n), -1);
+            Check.same("come(" + n + ")", x.come(n), -1);
+            Check.same("gift(" + n + ", 1)", x.gift(n, 1), -1);
+            Check.same("person(" + n + ", 2)", x.person(n, 2), -1);
+            Check.same("hides(" + n + ")", x.hides(n), -1);
+            Check.same("wish(" + n + ", 0)", x.wish(n, 0), -1);
+            Check.same("wish(0, " + n + ")", x.wish(0, n), -1);
+            Check.same("ruin(" + n + ")", x.ruin(n), -1);
+            Check.same("hushed(" + n + ")", x.hushed(n), -1);
+            x.image(0);
+            Check.same("image(" + n + ")", x.image(n), -1);
+            Check.same("back(" + n + ")", x.back(n), -1);
+        }
+        Check.same("one act", x.about(6), 1);
+    }
+
     private static void gifts() {
         BellRingers x = Check.of(THREE + "person dan has 950;");
         Check.same("gift(0, 1)", x.gift(0, 1), 21);
@@ -280,6 +302,7 @@ public final class ActsTest {
         lastDay();
         wants();
         comings();
+        farNumbers();
         gifts();
         undone();
         fortyKept();

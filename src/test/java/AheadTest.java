@@ -251,7 +251,7 @@ public final class AheadTest {
         Check.lie("both go", x, 0, 0);
         Check.same("staying(0, 1)", x.staying(0, 1), 1);
         Check.lie("both go", x, 0, 0);
-        int[][] wrong = {{0, 0}, {3, 0}, {0, 3}, {-1, 0}, {0, -1}};
+        int[][] wrong = {{0, 0}, {3, 0}, {0, 3}, {-1, 0}, {0, -1}, {32, 1}, {1, 32}, {64, 2}, {-32, 1}, {1, -32}};
         for (int[] pair : wrong) {
             x.list();
             Check.same("staying of no two", x.staying(pair[0], pair[1]), -1);
@@ -297,6 +297,8 @@ public final class AheadTest {
         Check.same("slight(1) without ann", x.slight(1), 0);
         Check.same("on the 60th day", Check.of(ONE + "weighs day=59;").slight(60), 0);
         Check.same("not ahead of it", Check.of(ONE + "weighs day=59;").slight(59), 1);
+        Check.same("nobody is found out", Check.of("person a has 9;person b has 9;bell x hour 0;"
+            + "loses a x 9;loses b x 5;weighs loss;faces 100;").slight(60), 2);
     }
 
     private static void lists() {
@@ -383,6 +385,49 @@ public final class AheadTest {
         Check.same("nobody is found out", Check.of(ONE + "weighs 1;faces 100;").hushed(0), -1);
     }
 
+    /** As many people and bells as can be: who is numbered i loses i + 1 by the bell i, the last one 20 by each. */
+    private static void fullVillage() {
+        StringBuilder text = new StringBuilder();
+        for (int i = 0; i < 6; i++) {
+            text.append("person ").append((char) ('a' + i)).append(" has 100;");
+        }
+        for (int i = 0; i < 5; i++) {
+            char name = (char) ('v' + i);
+            text.append("bell ").append(name).append(" hour ").append(i).append(';');
+            text.append("loses ").append((char) ('a' + i)).append(' ').append(name).append(' ').append(i + 1).append(';');
+            text.append("loses f ").append(name).append(" 20;");
+        }
+        BellRingers x = Check.of(text + "weighs loss;");
+        Check.same("full: person(5, 4)", x.person(5, 4), 31);
+        Check.same("full: cost(1)", x.cost(1), 100);
+        Check.same("full: hides(5)", x.hides(5), 31);
+        Check.same("full: hides(0)", x.hides(0), 0);
+        Check.same("full: duties(0)", x.duties(0), 5);
+        Check.lie("full: duties", x, 0, 1, 2, 3, 4);
+        Check.same("full: duties(1)", x.duties(1), 15);
+        Check.same("full: hush(1)", x.hush(1), 63);
+        Check.same("full: spare(0)", x.spare(0), 5);
+        Check.same("full: spare(1)", x.spare(1), 15);
+        Check.same("full: chorus(1)", x.chorus(1), 32);
+        Check.same("full: slight(60)", x.slight(60), 31);
+        Check.same("full: busiest()", x.busiest(), 5);
+        Check.same("full: ruin(5)", x.ruin(5), 1);
+        Check.same("full: staying(0, 5)", x.staying(0, 5), 1);
+        Check.lie("full: staying", x, 1, 0);
+        Check.same("full: day()", x.day(), 100);
+        Check.same("full: list()", x.list(), 6);
+        Check.lie("full: list", x, 5, 0, 1, 2, 3, 4);
+        for (int person = 0; person < 6; person++) {
+            for (int bell = 0; bell < 5; bell++) {
+                x.want(person, bell, 7);
+            }
+        }
+        Check.same("all alike: duties(1)", x.duties(1), 35);
+        Check.lie("all alike: duties", x, 0, 1, 2, 3, 4);
+        Check.same("all alike: person(0, 4)", x.person(0, 4), 31);
+        Check.same("all alike: chorus(1)", x.chorus(1), 1);
+    }
+
     private static void odds(int faces, int n, int upper, int lower) {
         BellRingers x = Check.of("faces " + faces + ";");
         Check.same("faces " + faces + ": odds(" + n + ", 0)", x.odds(n, 0), upper);
@@ -428,6 +473,7 @@ public final class AheadTest {
         wholes();
         laws();
         silences();
+        fullVillage();
         allOdds();
         Check.finish();
     }

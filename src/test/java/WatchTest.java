@@ -45,11 +45,30 @@ public final class WatchTest {
         Check.same("untell(29)", x.untell(29), true);
         Check.same("untold ones count", x.seen(1, 0, 0, true), -1);
         Check.same("about(8)", x.about(8), 30);
+        // on day 12 neither of the two rings x but by some; all 30 are looked at, and no more
+        Check.same("fits with 30 seen", x.fits(0), fitsByHand());
+        Check.tell(x, TWO);
+        Check.same("nothing seen of the village before", x.fits(0), 21);
+        x.seen(1, 0, 1, true);
+        Check.same("one seen, none of those before", x.fits(0), 15);
         BellRingers y = Check.of("person a has 9;bell x hour 1;");
         Check.same("seen without loses", y.seen(1, 0, 0, true), -1);
         Check.same("fits without loses", y.fits(0), 0);
         Check.same("sure without loses", y.sure(0, 0), -1);
         Check.same("ask without loses", y.ask(1, 0, 0), -1);
+    }
+
+    /** For how many of 0 .. 20, told in place of the 7, nobody rings x on day 12. */
+    private static int fitsByHand() {
+        int many = 0;
+        for (int loss = 0; loss <= 20; loss++) {
+            BellRingers y = Check.of(TWO);
+            if (loss != 7) {
+                y.want(1, 0, loss);
+            }
+            many += y.will(0, 12, 0) == -1 ? 1 : 0;
+        }
+        return many;
     }
 
     private static void asking() {
