@@ -308,6 +308,21 @@ public final class EdgeWatchTest {
         Check.same("46 one is left", one.ask(12, 1, 0), 1);
     }
 
+    /** Of each of the PEOPLE, by each BELL: the others are silent, and nobody is an answer beside the last one. */
+    private static void asksOfEach() {
+        for (int person = 0; person < 6; person++) {
+            for (int bell = 0; bell < 5; bell++) {
+                String two = (char) ('a' + person) + " " + (char) ('v' + bell);
+                BellRingers x = Check.of(SIX + "loses " + two + " 3;weighs loss>12;");
+                Check.same("46 the bell of " + two, x.ask(12, 0, 0), bell);
+                Check.same("46 13 and 8 of " + two, x.ask(12, 1, 0), 13);
+                x.seen(1, bell, person, true);
+                Check.same("46 nothing more to know of " + two, x.ask(12, 0, 0), 0);
+                Check.same("46 eight of " + two, x.ask(12, 1, 0), 8);
+            }
+        }
+    }
+
     // ---- promises 47 to 49
 
     /** "are kept in a BOX 0 .. 2: the day"; "All is as it was kept (no ACTS are kept then): the day" */
@@ -438,6 +453,7 @@ public final class EdgeWatchTest {
         laters();
         asks();
         asksLike();
+        asksOfEach();
         images();
         allOfAnImage();
         abouts();
