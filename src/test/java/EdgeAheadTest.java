@@ -713,6 +713,33 @@ public final class EdgeAheadTest {
         Check.lie("40 but another village", x);
     }
 
+    /** Each call that leaves numbers there, behind each other one: nothing of the one is left in the other. */
+    private static void lyingInTurns() {
+        String text = SIX + "loses a v 5;loses b v 4;loses c w 3;loses a x 9;loses f z 2;loses e y 1;weighs loss*(rung=0);";
+        BellRingers x = Check.of(text);
+        for (int first = 0; first < 4; first++) {
+            for (int second = 0; second < 4; second++) {
+                lay(x, first);
+                int answer = lay(x, second);
+                BellRingers twin = Check.of(text);
+                Check.same("40 the call " + second + " behind " + first, answer, lay(twin, second));
+                Check.same("40 how many lie there", x.about(12), twin.about(12));
+                for (int i = -1; i <= 6; i++) {
+                    Check.same("40 lies(" + i + ") of " + second + " behind " + first, x.lies(i), twin.lies(i));
+                }
+            }
+        }
+    }
+
+    private static int lay(BellRingers x, int call) {
+        return switch (call) {
+            case 0 -> x.order();
+            case 1 -> x.duties(1);
+            case 2 -> x.list();
+            default -> x.staying(0, 1);
+        };
+    }
+
     public static void main(String[] args) {
         beyondTheLastDay();
         nobodyFoundOut();
@@ -736,6 +763,7 @@ public final class EdgeAheadTest {
         hushed();
         odds();
         lying();
+        lyingInTurns();
         Check.finish();
     }
 }

@@ -161,6 +161,27 @@ public final class EdgeTextTest {
         Check.same("4 all as told, going on", Whole.goOn(x).equals(Whole.goOn(twin)), true);
     }
 
+    /** Nothing of an earlier village's weighs, longer or shorter, told or refused, is left behind another one. */
+    private static void weighsAnew() {
+        String[] formulas = {"not 1", "5", "1 and not not 7", "8", "2+3*4", "9-1", "not not 1 or not 0", "6", "(((3)))", "2"};
+        int[] due = {0, 5, 1, 8, 14, 8, 1, 6, 3, 2};
+        int[] units = {1, 1, 2, 1, 3, 2, 2, 1, 4, 1};
+        for (int first = 0; first < formulas.length; first++) {
+            for (int second = 0; second < formulas.length; second++) {
+                BellRingers x = Check.of(TWO + "weighs " + formulas[first] + ";");
+                Check.same("8 " + formulas[first], x.weight(0, 0), due[first]);
+                Check.tell(x, TWO + "weighs " + formulas[second] + ";");
+                Check.same("8 " + formulas[second] + " behind it", x.weight(0, 0), due[second]);
+                Check.tell(x, TWO + "weighs " + formulas[first] + ";$");
+                Check.same("8 " + formulas[second] + " stays", x.weight(0, 0), due[second]);
+                Check.same("49 its units stay", x.about(11), units[second]);
+                Check.tell(x, TWO + "loses a b 4;");
+                Check.same("8 none is told", x.weight(0, 0), 4);
+                Check.same("49 no units", x.about(11), 0);
+            }
+        }
+    }
+
     /** "Of the latest village() what 0: its FAULT (0), 1: its place (NONE). NONE for another what." */
     private static void faultOfTheLatest() {
         BellRingers x = new BellRingers();
@@ -697,6 +718,7 @@ public final class EdgeTextTest {
         endOfTheTape();
         peopleOfAVillage();
         villageAnew();
+        weighsAnew();
         faultOfTheLatest();
         lengths();
         everyByte();
