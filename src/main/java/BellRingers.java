@@ -1185,7 +1185,7 @@ public final class BellRingers {
 
         /** How all is then; null if there is no act. */
         State takenBack(State state) {
-            if (done <= 0) {
+            if (done <= 0 || done > sides.length) {
                 return null;
             }
             done--;
@@ -1418,10 +1418,10 @@ public final class BellRingers {
             for (int i = 2; i <= told.bells; i++) {
                 orders *= i;
             }
-            int least = Integer.MAX_VALUE;
+            int least = 0;
             for (int i = 0; i < orders; i++) {
                 int lost = lostByTried(now);
-                if (lost < least) {
+                if (i == 0 || lost < least) {
                     least = lost;
                     System.arraycopy(tried, 0, best, 0, told.bells);
                 }
@@ -1548,7 +1548,7 @@ public final class BellRingers {
 
     /** What was seen of the village as it was told, and what may be of the last of loses by that. */
     private static final class Watch {
-        private static final int NEVER = Integer.MAX_VALUE;
+        private static final int NEVER = LAST_TIME + 1;
 
         private final Village told;
         private final Ringing ringing;

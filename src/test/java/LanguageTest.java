@@ -1,8 +1,12 @@
 import com.sun.source.tree.AssertTree;
 import com.sun.source.tree.ClassTree;
 import com.sun.source.tree.CompilationUnitTree;
+import com.sun.source.tree.DoWhileLoopTree;
+import com.sun.source.tree.ExpressionTree;
+import com.sun.source.tree.ForLoopTree;
 import com.sun.source.tree.LambdaExpressionTree;
 import com.sun.source.tree.MemberReferenceTree;
+import com.sun.source.tree.MemberSelectTree;
 import com.sun.source.tree.MethodInvocationTree;
 import com.sun.source.tree.MethodTree;
 import com.sun.source.tree.NewClassTree;
@@ -10,6 +14,9 @@ import com.sun.source.tree.SynchronizedTree;
 import com.sun.source.tree.ThrowTree;
 import com.sun.source.tree.Tree;
 import com.sun.source.tree.TryTree;
+import com.sun.source.tree.TypeCastTree;
+import com.sun.source.tree.VariableTree;
+import com.sun.source.tree.WhileLoopTree;
 import com.sun.source.util.JavacTask;
 import com.sun.source.util.TreePath;
 import com.sun.source.util.TreePathScanner;
@@ -27,6 +34,9 @@ import java.util.Set;
 import java.util.TreeSet;
 import javax.lang.model.element.Element;
 import javax.lang.model.element.ElementKind;
+import javax.lang.model.type.ArrayType;
+import javax.lang.model.type.TypeKind;
+import javax.lang.model.type.TypeMirror;
 import javax.tools.JavaCompiler;
 import javax.tools.StandardJavaFileManager;
 import javax.tools.ToolProvider;
@@ -112,7 +122,7 @@ public final class LanguageTest {
         }
     }
 
-    // ---- the source, rules 2, 4, 6, 8, 9, 11
+    // ---- the source, rules 2, 3, 4, 6, 8, 9, 11
 
     private static final class Look extends TreePathScanner<Void, Void> {
         private final Trees trees;
@@ -160,6 +170,64 @@ public final class LanguageTest {
                 hold("numbers alone: " + element, !element.toString().contains("boolean"));
             }
             return super.visitMethodInvocation(tree, none);
+        }
+
+        /** Rule 4 names calls alone: no field of the library (Integer.MAX_VALUE, System.out), but an array's length. */
+        @Override
+        public Void visitMemberSelect(MemberSelectTree tree, Void none) {
+            Element element = trees.getElement(getCurrentPath());
+            if (element != null && element.getKind() == ElementKind.FIELD) {
+                TypeMirror of = trees.getTypeMirror(new TreePath(getCurrentPath(), tree.getExpression()));
+                hold("no field of the library: " + tree, of != null
+                    && (of.getKind() == TypeKind.ARRAY || of.toString().startsWith("BellRingers")));
+            }
+            return super.visitMemberSelect(tree, none);
+        }
+
+        /** Rule 3, as far as the class goes: numbers, booleans, its own classes, and rows of these. */
+        private static boolean isTaken(TypeMirror type, boolean inRow) {
+            if (type.getKind() == TypeKind.ARRAY) {
+                return !inRow && isTaken(((ArrayType) type).getComponentType(), true);
+            }
+            return type.getKind().isPrimitive() || type.toString().startsWith("BellRingers");
+        }
+
+        @Override
+        public Void visitVariable(VariableTree tree, Void none) {
+            hold("a type of rule 3: " + tree, isTaken(trees.getElement(getCurrentPath()).asType(), false));
+            return super.visitVariable(tree, none);
+        }
+
+        @Override
+        public Void visitTypeCast(TypeCastTree tree, Void none) {
+            TypeMirror type = trees.getTypeMirror(new TreePath(getCurrentPath(), tree.getType()));
+            hold("a cast of a number: " + tree, type.getKind().isPrimitive());
+            return super.visitTypeCast(tree, none);
+        }
+
+        private void checkEnd(ExpressionTree condition, Tree loop) {
+            String until = condition == null ? "true" : condition.toString();
+            if (until.replaceAll("[()]", "").equals("true")) {
+                refuse("a loop without an end", loop);
+            }
+        }
+
+        @Override
+        public Void visitForLoop(ForLoopTree tree, Void none) {
+            checkEnd(tree.getCondition(), tree);
+            return super.visitForLoop(tree, none);
+        }
+
+        @Override
+        public Void visitWhileLoop(WhileLoopTree tree, Void none) {
+            checkEnd(tree.getCondition(), tree);
+            return super.visitWhileLoop(tree, none);
+        }
+
+        @Override
+        public Void visitDoWhileLoop(DoWhileLoopTree tree, Void none) {
+            checkEnd(tree.getCondition(), tree);
+            return super.visitDoWhileLoop(tree, none);
         }
 
         @Override
